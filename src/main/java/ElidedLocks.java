@@ -80,6 +80,9 @@ public final class ElidedLocks {
     private static final int STAYS = 0;
     private static final int FELL = NONE;
 
+    // In the place of the value of a WRITE: it is a READ.
+    private static final int READING = NONE;
+
     private final Machine now;
     // Also the draft of a text that may yet turn out wrong: the two uses never meet in one call.
     private final Machine aside;
@@ -273,8 +276,7 @@ public final class ElidedLocks {
             throw new IllegalArgumentException("the value is none");
         }
         orders.forget();
-        now.reach(NONE, word, true);
-        now.words[wordOf(word)] = value;
+        now.reach(NONE, word, value);
         return old;
     }
 
@@ -368,6 +370,9 @@ public final class ElidedLocks {
     }
 
     public int serial(int k) {
+        if (!orders.known) {
+            orders.search();
+        }
         return orders.threadOf(k);
     }
 
@@ -472,11 +477,11 @@ public final class ElidedLocks {
         }
 
         void gain(int more) {
-            trust = Math.min(MOST_TRUST, trust + more);
+            trust = trust + more < MOST_TRUST ? trust + more : MOST_TRUST;
         }
 
         void lose(int less) {
-            trust = Math.max(0, trust - less);
+            trust = trust > less ? trust - less : 0;
         }
     }
 
@@ -541,9 +546,10 @@ public final class ElidedLocks {
             return left > 0 && left <= LOCKS ? leftOut[left - 1] : NONE;
         }
 
-        void setValue(int word, int value) {
+        void write(int word, int value, int blockBit) {
             values[word & WORDS - 1] = value;
             valued |= 1 << word;
+            writes |= blockBit;
         }
 
         boolean hasValue(int word) {
@@ -687,7 +693,9 @@ public final class ElidedLocks {
             cells[cell + 2] = what;
             cells[cell + 3] = more;
             next = (next + 1) % LOG_ROWS;
-            size = Math.min(LOG_ROWS, size + 1);
+            if (size < LOG_ROWS) {
+                size++;
+            }
         }
 
         int cell(int ago, int column) {
@@ -802,10 +810,10 @@ public final class ElidedLocks {
             int number = s.numberAt(s.at);
             int result = MOVED;
             switch (s.kindAt(s.at)) {
-                case TAKE: result = takeLock(t, s, number); break;
+                case TAKE: result = s.guess.on ? takeGuessing(t, s, number) : takePlainly(t, s, number); break;
                 case DROP: result = dropLock(t, s, number); break;
                 case GET: result = getWord(t, s, number); break;
-                case PUT: result = putWord(t, s, number, s.sum); break;
+                case PUT: result = reach(t, number, s.sum); break;
                 case SET: s.sum = number; break;
                 case PLUS: s.sum = (s.sum + number) % BEYOND; break;
                 case WORK: result = goOnWorking(s, number); break;
@@ -826,23 +834,15 @@ public final class ElidedLocks {
                 return MOVED;
             }
             if (s.guess.on) {
-                fall(t, UNPAIRED);
-                return FELL;
+                return fall(t, UNPAIRED);
             }
             log.add(tick, t, DONE, 0);
             return MOVED;
         }
 
-        private int takeLock(int t, Strand s, int l) {
-            int word = lockAt(l).word;
-            if (!reach(t, word, false)) {
-                return FELL;
-            }
-            return s.guess.on ? takeGuessing(t, s, l) : takePlainly(t, s, l);
-        }
-
         private int takePlainly(int t, Strand s, int l) {
             Lock lock = lockAt(l);
+            reach(t, lock.word, READING);
             if (words[lock.word & WORDS - 1] != 0) {
                 return STAYS;
             }
@@ -853,7 +853,7 @@ public final class ElidedLocks {
                 log.add(tick, t, BEGINS, l);
                 return MOVED;
             }
-            putWord(t, s, lock.word, 1);
+            reach(t, lock.word, 1);
             s.tried = 0;
             lock.taken++;
             if (lock.taken % Math.max(1, terms[HEAL]) == 0) {
@@ -865,26 +865,26 @@ public final class ElidedLocks {
 
         private int takeGuessing(int t, Strand s, int l) {
             int word = lockAt(l).word;
-            if (s.guess.leavesOut(l)) {
-                fall(t, UNPAIRED);
+            if (reach(t, word, READING) == FELL) {
                 return FELL;
             }
+            if (s.guess.leavesOut(l)) {
+                return fall(t, UNPAIRED);
+            }
             if (seenBy(s, word) != 0) {
-                fall(t, HELD);
-                return FELL;
+                return fall(t, HELD);
             }
             if (s.guess.left < terms[DEPTH]) {
                 s.guess.leaveOut(l);
                 return MOVED;
             }
-            return putWord(t, s, word, 1);
+            return reach(t, word, 1);
         }
 
         private int dropLock(int t, Strand s, int l) {
             if (s.guess.on && s.guess.leavesOut(l)) {
                 if (s.guess.latestLeftOut() != l) {
-                    fall(t, UNPAIRED);
-                    return FELL;
+                    return fall(t, UNPAIRED);
                 }
                 s.guess.left--;
                 if (s.guess.left == 0) {
@@ -892,7 +892,7 @@ public final class ElidedLocks {
                 }
                 return MOVED;
             }
-            int result = putWord(t, s, lockAt(l).word, 0);
+            int result = reach(t, lockAt(l).word, 0);
             // One that fell by its WRITE is GUESSING no more, but has dropped nothing.
             if (result == MOVED && !s.guess.on) {
                 log.add(tick, t, DROPPED, l);
@@ -913,24 +913,11 @@ public final class ElidedLocks {
         }
 
         private int getWord(int t, Strand s, int word) {
-            if (!reach(t, word, false)) {
-                return FELL;
+            int result = reach(t, word, READING);
+            if (result == MOVED) {
+                s.sum = seenBy(s, word);
             }
-            s.sum = seenBy(s, word);
-            return MOVED;
-        }
-
-        /** A WRITE by a THREAD. */
-        private int putWord(int t, Strand s, int word, int value) {
-            if (!reach(t, word, true)) {
-                return FELL;
-            }
-            if (s.guess.on) {
-                s.guess.setValue(word, value);
-            } else {
-                words[word & WORDS - 1] = value;
-            }
-            return MOVED;
+            return result;
         }
 
         private int goOnWorking(Strand s, int steps) {
@@ -940,8 +927,7 @@ public final class ElidedLocks {
 
         private int putOut(int t, Strand s) {
             if (s.guess.on) {
-                fall(t, SHOWN);
-                return FELL;
+                return fall(t, SHOWN);
             }
             if (outs < OUTPUTS) {
                 outThreads[outs] = t;
@@ -952,18 +938,17 @@ public final class ElidedLocks {
             return MOVED;
         }
 
-        /** What a READ or a WRITE by a THREAD (or by NONE) does but for the value; false if it FALLS by it. */
-        boolean reach(int t, int word, boolean writing) {
+        /** A WRITE of a value, or a READ, by a THREAD or by NONE: MOVED, or FELL if it FALLS by that. */
+        int reach(int t, int word, int value) {
             int bit = blockBit(word);
+            boolean writing = value != READING;
             boolean guessing = isGuessing(t);
             if (guessing && writing && isFull(strandAt(t).guess, bit)) {
-                fall(t, FULL);
-                return false;
+                return fall(t, FULL);
             }
             int others = holdersOf(bit, t, writing);
             if (guessing && terms[OLDER] != 0 && anyBefore(others, strandAt(t).guess.beganTick)) {
-                fall(t, CLASH);
-                return false;
+                return fall(t, CLASH);
             }
             for (int other = 0; other < strandCount; other++) {
                 if ((others >>> other & 1) != 0) {
@@ -971,11 +956,13 @@ public final class ElidedLocks {
                 }
             }
             if (guessing && writing) {
-                strandAt(t).guess.writes |= bit;
+                strandAt(t).guess.write(word, value, bit);
             } else if (guessing) {
                 strandAt(t).guess.reads |= bit;
+            } else if (writing) {
+                words[word & WORDS - 1] = value;
             }
-            return true;
+            return MOVED;
         }
 
         private boolean isFull(Guess guess, int bit) {
@@ -1004,7 +991,7 @@ public final class ElidedLocks {
             return false;
         }
 
-        private void fall(int t, int why) {
+        private int fall(int t, int why) {
             Strand s = strandAt(t);
             s.at = s.guess.beganAt;
             s.sum = s.guess.beganSum;
@@ -1016,6 +1003,7 @@ public final class ElidedLocks {
             lockAt(s.guess.leftOut[0]).lose(terms[DOWN]);
             s.guess.close();
             log.add(tick, t, FALLS, why);
+            return FELL;
         }
 
         /** The BLOCKS, as bits, that the DEEDS of one KIND of a PROGRAM name. */
@@ -1353,14 +1341,11 @@ public final class ElidedLocks {
         }
 
         int threadOf(int k) {
-            if (!known) {
-                search();
-                known = true;
-            }
             return found && k >= 0 && k < parts && k < MOST_PARTS ? order[k] : NONE;
         }
 
-        private void search() {
+        void search() {
+            known = true;
             found = false;
             parts = 0;
             for (int t = 0; t < machine.strandCount && t < THREADS; t++) {
