@@ -60,6 +60,9 @@ public final class AskTest {
         // A GUESS with an output in it falls: the plain LOCK, from NEED 9 on, is the quicker one.
         d = new Desk("tries 9; down 0; thread take 0, out, drop 0");
         Desk.due("22 plain", d.x.quickest(0) + " " + d.x.quickest(1), "9 3");
+        d = new Desk("trust 15; tries 9; down 0; thread take 0, out, drop 0");
+        Desk.due("22 not by any TRUST", d.x.quickest(0) + " " + d.x.quickest(1), "16 3");
+        Desk.due("23 not by any TRUST", d.x.plain(), 3);
         d = new Desk("thread take 0, take 0");
         Desk.due("22 none", d.x.quickest(0) + " " + d.x.quickest(1), "-1 -1");
         String works = "thread " + "work 9,".repeat(22) + "work 1, work 1";
@@ -144,6 +147,14 @@ public final class AskTest {
         d = new Desk("word 1 5; thread get 1, put 2; thread set 2, put 1");
         d.steps(0, 0, 1, 1);
         Desk.due("28", d.serial(), "0011");
+        d = new Desk("thread work 2, get 1, plus 3, put 1; thread set 2, put 1, work 1");
+        d.steps(1, 1, 1);
+        d.x.run(100);
+        Desk.due("28 work is a PART, too", d.serial(), "0110001");
+        // The SUM of a PART that was tried in vain is as it was.
+        d = new Desk("thread set 4, plus 1, put 0; thread get 0, put 1");
+        d.steps(0, 0, 1, 1, 0);
+        Desk.due("28", d.serial(), "00101");
         // With ten PARTS still, with eleven no more.
         d = new Desk("thread set 1, set 1, set 1, set 1, set 1; thread set 1, set 1, set 1, set 1, put 0");
         d.x.run(100);
@@ -169,6 +180,9 @@ public final class AskTest {
         Desk.due("28 no ORDER of whole PARTS", d.serial(), "");
         d.x.poke(1, 2);
         Desk.due("28 as they are now", d.serial(), "01");
+        d.x.poke(0, 1);
+        Desk.due("28 all WORDS", d.serial(), "");
+        d.x.poke(0, 0);
         d.x.poke(31, 1);
         Desk.due("28 all WORDS", d.serial(), "");
         d.tell("word 31 1");
@@ -191,6 +205,10 @@ public final class AskTest {
         d = new Desk("thread set 1, out; thread set 1, out");
         d.steps(1, 1, 0, 0);
         Desk.due("28 the THREAD counts", d.serial(), "0110");
+        d = new Desk("need 0; thread out; thread take 0, out, drop 0");
+        d.x.run(100);
+        Desk.due("28", d.serial() + " " + d.serial(), "01 01");
+        d.steps();
         // 22 in one PART: those that were not kept do not count.
         d = new Desk("need 16; thread take 0," + "out,".repeat(22) + "drop 0; thread set 1, out");
         d.steps(0);

@@ -28,6 +28,10 @@ public final class CourseTest {
         outputs();
         logRows();
         images();
+        imageOfAGuess();
+        imageOfCounts();
+        takeReads();
+        firstAndLastWord();
         counts();
         Desk.finish();
     }
@@ -522,6 +526,83 @@ public final class CourseTest {
         d.x.image();
         d.steps(2);
         Desk.due("33 the later one", d.x.back() + " " + d.x.count(0) + " " + d.x.thread(2, 3), "true 3 0");
+    }
+
+    private static void imageOfAGuess() {
+        Desk d = new Desk("older; wide 1; need 0; thread set 6, take 2, set 8, put 3, get 4, work 3, drop 2, out;"
+                + "thread take 0, set 1, put 4, drop 0");
+        d.steps(0, 1, 0, 0, 0, 0, 0);
+        d.x.image();
+        d.x.poke(4, 0);
+        d.steps(0, 0);
+        d.x.poke(24, 0);
+        d.x.run(100);
+        d.x.back();
+        Desk.due("34 READS, WRITES", d.x.blocks(0, 0) + " " + d.x.blocks(0, 1), (1 << 24 | 1 << 4) + " 8");
+        Desk.due("34 VALUES", d.x.sees(0, 3) + " " + d.x.word(3), "8 0");
+        Desk.due("34 SUM, work", d.x.thread(0, 1) + " " + d.x.thread(0, 9), "0 1");
+        Desk.due("34 LEFT OUT", d.x.leftOut(0, 0) + " " + d.x.leftOut(1, 0), "2 0");
+        d.steps(1);
+        Desk.due("34 BEGAN in which TICK", d.steps(1) + " " + d.x.count(4), "1 2");
+        Desk.due("34 where it BEGAN", d.x.thread(0, 0) + " " + d.x.thread(0, 1), "1 6");
+        d.x.back();
+        Desk.due("34 on to the end", d.steps(0, 0, 0), "0 1 1");
+        Desk.due("34 KEPT", d.x.word(3) + " " + d.row(0), "8 9 0 1 2");
+    }
+
+    private static void imageOfCounts() {
+        Desk d = new Desk("need 0; thread set 3, take 0, out, drop 0, out, set 4, out; thread take 0, drop 0; thread take 1");
+        d.steps(1, 1, 0, 0, 0);
+        d.x.tune(1, 1);
+        d.steps(0, 0, 0);
+        d.steps(2);
+        String due = "1 0 1 1; 3 3 0; 8 2 2 0";
+        Desk.due("as it is", countsOf(d), due);
+        d.x.image();
+        d.x.run(100);
+        d.x.back();
+        Desk.due("34 as it was", countsOf(d), due);
+        Desk.due("34 OUTPUTS", d.x.output(0, 0) + " " + d.x.output(0, 1) + " " + d.x.output(1, 0), "0 3 -1");
+        Desk.due("34 the LOG", d.row(0) + "; " + d.row(d.x.count(8) - 1), "8 2 2 2; 0 1 0 0");
+    }
+
+    /** Of LOCK 0 TAKEN and KEPT, of THREADS KEPT, FELL; SUM, TRIED; the latest fall, but one row ahead of it. */
+    private static String countsOf(Desk d) {
+        String locks = d.x.lock(0, 3) + " " + d.x.lock(1, 3) + " " + d.x.lock(0, 5) + " " + d.x.thread(1, 5);
+        String threads = d.x.thread(0, 1) + " " + d.x.output(0, 1) + " " + d.x.thread(0, 4);
+        return locks + "; " + threads + "; " + d.x.log(1, 0) + " " + d.x.log(1, 1) + " " + d.x.log(0, 2) + " " + d.x.log(1, 2);
+    }
+
+    private static void takeReads() {
+        // A take READS the LOCK's WORD, so whoever has written in its BLOCK falls, by one held up, too.
+        Desk d = new Desk("need 0; depth 1; thread take 0, take 1, drop 1, drop 0; thread take 1, drop 1; thread take 2, put 17");
+        d.steps(0, 0);
+        Desk.due("15 begins", d.steps(1) + " " + d.x.count(4), "1 2");
+        Desk.due("9", d.x.fell(0, 0), 1);
+        d = new Desk("need 0; thread take 0, put 21, drop 0; thread take 1, drop 1");
+        d.x.poke(20, 1);
+        d.steps(0, 0);
+        Desk.due("15 held up", d.steps(1) + " " + d.x.count(4), "0 0");
+        // And GUESSING, ahead of what it falls by itself.
+        d = new Desk("need 0; depth 2; thread take 0, put 21, drop 0; thread take 1, set 0, take 1");
+        d.steps(1, 1, 0);
+        d.steps(0);
+        Desk.due("15 the WRITE made it fall", d.x.count(4), 1);
+        d = new Desk("need 0; older; depth 2; thread take 0, put 25, work 9; thread take 1, take 2");
+        d.steps(0, 0, 1);
+        Desk.due("15 falls by its READ", d.steps(1) + " " + d.x.fell(1, 0) + " " + d.x.fell(1, 4), "-1 1 0");
+    }
+
+    private static void firstAndLastWord() {
+        Desk d = new Desk("thread take 0, set 5, put 0, put 31, drop 0");
+        d.x.run(100);
+        Desk.due("10 KEPT", d.x.word(0) + " " + d.x.word(31), "5 5");
+        d = new Desk("need 0; tries 9; thread take 0, set 5, put 0, work 1, drop 0");
+        d.steps(0, 0, 0);
+        d.x.poke(1, 0);
+        Desk.due("11 no VALUE any more", d.x.sees(0, 0), 0);
+        d.steps(0);
+        Desk.due("11 nor of the next GUESS", d.x.sees(0, 0) + " " + d.x.count(4), "0 1");
     }
 
     private static void counts() {

@@ -112,6 +112,7 @@ public final class TextTest {
         Desk.due("4 at a WORD that was left", d.tell("lock 1 at 16; lock 0 at 20"), 3);
         Desk.due("4 lock", d.x.lock(0, 0), 20);
         Desk.due("5 the WORD of another LOCK", d.wrongByte("lock 0 at 24"), 10);
+        Desk.due("5 the WORD of LOCK 0", d.wrongByte("lock 3 at 20"), 10);
         Desk.due("5 just told so", d.wrongByte("lock 3 at 5; lock 2 at 5"), 23);
         Desk.due("5 no LOCK", d.wrongByte("lock 4 at 5"), 5);
         Desk.due("5 no WORD", d.wrongByte("lock 3 at 32"), 10);
