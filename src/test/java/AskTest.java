@@ -194,6 +194,18 @@ public final class AskTest {
         Desk.due("28 gone back", d.serial(), "01");
         d.tell("word 20 1");
         Desk.due("28 a take whose WORD is not 0", d.serial(), "");
+        Desk e = new Desk("word 20 1; thread take 1, drop 1");
+        e.x.poke(20, 0);
+        e.x.run(100);
+        Desk.due("28 even if all comes out", e.x.count(3) + " " + e.x.word(20) + e.serial(), "1 0");
+        // SUMS are 0 at the begin of a later search, too.
+        e = new Desk("thread put 0, set 5");
+        e.x.run(100);
+        Desk.due("28", e.serial(), "00");
+        e.x.poke(9, 1);
+        Desk.due("28", e.serial(), "");
+        e.x.poke(9, 0);
+        Desk.due("28 SUMS 0", e.serial(), "00");
         d.tell("word 20 0");
         Desk.due("28 it is 0 again", d.serial(), "01");
     }
@@ -208,7 +220,6 @@ public final class AskTest {
         d = new Desk("need 0; thread out; thread take 0, out, drop 0");
         d.x.run(100);
         Desk.due("28", d.serial() + " " + d.serial(), "01 01");
-        d.steps();
         // 22 in one PART: those that were not kept do not count.
         d = new Desk("need 16; thread take 0," + "out,".repeat(22) + "drop 0; thread set 1, out");
         d.steps(0);

@@ -30,6 +30,8 @@ public final class CourseTest {
         images();
         imageOfAGuess();
         imageOfCounts();
+        imageOfAFullLog();
+        placeOfAnother();
         takeReads();
         firstAndLastWord();
         counts();
@@ -286,6 +288,7 @@ public final class CourseTest {
         Desk.due("6", d.x.thread(0, 7), 4);
         Desk.due("7", d.x.leftOut(0, 3), 3);
         Desk.due("8", d.x.blocks(0, 1), 0);
+        Desk.due("15 one behind another", d.steps(0, 0, 0, 0) + " " + d.x.lock(0, 5), "1 1 1 1 1");
         d = new Desk("depth 2; wide 1; " + program);
         d.steps(0, 0, 0, 0);
         Desk.due("6", d.x.thread(0, 7), 2);
@@ -564,6 +567,36 @@ public final class CourseTest {
         Desk.due("34 as it was", countsOf(d), due);
         Desk.due("34 OUTPUTS", d.x.output(0, 0) + " " + d.x.output(0, 1) + " " + d.x.output(1, 0), "0 3 -1");
         Desk.due("34 the LOG", d.row(0) + "; " + d.row(d.x.count(8) - 1), "8 2 2 2; 0 1 0 0");
+    }
+
+    private static void imageOfAFullLog() {
+        String outs = "thread " + "out,".repeat(22) + "out";
+        Desk d = new Desk(outs, outs, outs);
+        d.x.run(66);
+        String oldest = d.row(59);
+        d.x.image();
+        d.x.run(100);
+        Desk.due("30 the oldest is another", d.row(59).equals(oldest), false);
+        d.x.back();
+        Desk.due("34 all rows", d.row(59), oldest);
+    }
+
+    private static void placeOfAnother() {
+        Desk d = new Desk("need 0; tries 9; thread set 1");
+        d.x.image();
+        d.tell("thread take 0, drop 0, set 5, take 1, out; thread set 4, work 9");
+        d.steps(1, 1, 1, 1, 1, 1, 2, 2);
+        d.x.poke(20, 0);
+        d.steps(1);
+        d.x.back();
+        d.tell("thread set 2; thread work 9");
+        for (int t = 1; t < 3; t++) {
+            for (int what = 0; what < 8; what++) {
+                Desk.due("6 of a new THREAD " + what, d.x.thread(t, what), 0);
+            }
+            Desk.due("6 no work is gone", d.x.thread(t, 9), 0);
+            Desk.due("9 never fell", d.x.fell(t, 0) + d.x.fell(t, 3), 0);
+        }
     }
 
     /** Of LOCK 0 TAKEN and KEPT, of THREADS KEPT, FELL; SUM, TRIED; the latest fall, but one row ahead of it. */

@@ -53,6 +53,12 @@ public final class ModelTest {
         return least + below(most - least + 1);
     }
 
+    /** Mostly the number itself, now and then any. */
+    private int wild(int n) {
+        int draw = below(200);
+        return draw == 0 ? random.nextInt() : draw == 1 ? Integer.MIN_VALUE : draw == 2 ? Integer.MAX_VALUE : n;
+    }
+
     private String number(int most) {
         return below(60) == 0 ? NUMBERS[below(NUMBERS.length)] : Integer.toString(below(most + 1));
     }
@@ -269,12 +275,12 @@ public final class ModelTest {
     }
 
     private void ask() {
-        int t = below(5) > 0 && model.count(0) > 0 ? below(model.count(0)) : small(-2, 4);
-        int o = small(-1, 4);
-        int k = small(-1, 8);
-        int what = small(-1, 10);
-        int two = below(10) == 0 ? small(-1, 2) : below(2);
-        int w = below(20) == 0 ? small(-1, 32) : below(32);
+        int t = wild(below(5) > 0 && model.count(0) > 0 ? below(model.count(0)) : small(-2, 4));
+        int o = wild(small(-1, 4));
+        int k = wild(small(-1, 8));
+        int what = wild(small(-1, 10));
+        int two = wild(below(10) == 0 ? small(-1, 2) : below(2));
+        int w = wild(below(20) == 0 ? small(-1, 32) : below(32));
         switch (below(23)) {
             case 0: compare("thread(" + t + ", " + what + ")", () -> program.thread(t, what), () -> model.thread(t, what)); break;
             case 1: compare("leftOut(" + t + ", " + k + ")", () -> program.leftOut(t, k), () -> model.leftOut(t, k)); break;
