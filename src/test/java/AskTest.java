@@ -232,5 +232,13 @@ public final class AskTest {
         }
         d.steps(1, 1);
         Desk.due("28 behind the others", d.serial(), "011");
+        // The last of 21 was not kept, but it may not come ahead of those that were.
+        d = new Desk("need 16; thread out; thread take 0," + "out,".repeat(20) + "drop 0");
+        for (int k = 0; k < 22; k++) {
+            d.steps(1);
+        }
+        d.steps(0);
+        Desk.due("28 20 are kept", d.x.count(7) + " " + d.x.count(3), "20 3");
+        Desk.due("28 not ahead of them", d.serial(), "10");
     }
 }

@@ -588,6 +588,10 @@ public final class CourseTest {
         d.steps(1, 1, 1, 1, 1, 1, 2, 2);
         d.x.poke(20, 0);
         d.steps(1);
+        // What goes on aside leaves its own THREADS in these places, too.
+        Desk.due("6 TRIED, FELL, gone", d.x.thread(1, 4) + " " + d.x.fell(1, 0) + " " + d.x.thread(2, 9), "2 1 1");
+        d.x.due(2);
+        d.x.due(0);
         d.x.back();
         d.tell("thread set 2; thread work 9");
         for (int t = 1; t < 3; t++) {
