@@ -7,6 +7,7 @@ public final class EdgeAskTest {
         dueGoesByRun();
         dueOfThoseDone();
         dueAsItIsNow();
+        dueOfAGuess();
         plainBounds();
         plainOfAGuess();
         quickestBounds();
@@ -24,6 +25,7 @@ public final class EdgeAskTest {
         serialBounds();
         serialParts();
         serialFirst();
+        serialInVain();
         serialTakes();
         serialOutputs();
         serialWords();
@@ -98,6 +100,19 @@ public final class EdgeAskTest {
         d = new Desk("thread work 9, out");
         d.steps(0, 0, 0, 0);
         Desk.due("21 work that is gone", dues(d), "6");
+    }
+
+    private static void dueOfAGuess() {
+        Desk d = new Desk("thread set 1, set 1, set 1, take 3, out, drop 3");
+        d.steps(0, 0, 0, 0);
+        // It falls back to its take, TRUST is 4 then: the LOCK, out, drop.
+        Desk.due("21 from where it BEGAN on", dues(d), "4");
+        Desk.due("23 likewise", d.x.plain(), 4);
+        d = new Desk("thread set 3, take 0, put 1, work 2, drop 0; thread get 1, take 2, drop 2");
+        d.steps(0, 0, 0);
+        // 1 makes it fall, 0 takes the LOCK: 1 0 1 0 1 0 0 0.
+        Desk.due("21 its GUESS falls ahead", dues(d), "8 5");
+        Desk.due("21 not now", d.x.count(4), 1);
     }
 
     private static void plainBounds() {
@@ -331,6 +346,19 @@ public final class EdgeAskTest {
         d = new Desk("thread set 4, plus 5, put 1; thread get 1, plus 1, put 2");
         d.x.run(100);
         Desk.due("28 1 got 0, ahead of the put", d.x.word(1) + " " + d.x.word(2) + " " + d.serial(), "9 1 001011");
+    }
+
+    private static void serialInVain() {
+        // 0's PART is tried first, in vain: its SUM, its WORDS and LOCKS are as they were then.
+        Desk d = new Desk("need 16; thread take 0, plus 1, put 0, drop 0; thread get 0, put 1");
+        d.steps(1, 1, 0, 0, 0, 0);
+        Desk.due("28 SUM", d.x.word(0) + " " + d.x.word(1) + " " + d.serial(), "1 0 101");
+        d = new Desk("need 16; thread take 0, get 2, plus 1, put 2, drop 0; thread set 5, put 2");
+        d.steps(1, 1, 0, 0, 0, 0, 0);
+        Desk.due("28 WORDS", d.x.word(2) + " " + d.serial(), "6 110");
+        d = new Desk("need 16; thread out, take 0; thread set 2, take 0, out, drop 0");
+        d.steps(1, 1, 1, 1, 0, 0);
+        Desk.due("28 LOCKS and OUTPUTS", d.x.output(0, 0) + " " + d.x.output(1, 0) + " " + d.serial(), "1 0 1100");
     }
 
     private static void serialTakes() {

@@ -23,6 +23,7 @@ public final class EdgeCourseTest {
         healed();
         healedToTheMost();
         heldUp();
+        locksAnywhere();
         takenTwice();
         seenTaken();
         depths();
@@ -367,6 +368,21 @@ public final class EdgeCourseTest {
         Desk.due("35 TICKS go", d.x.count(2) + " " + d.x.count(9), "2 0");
         d.x.poke(16, 0);
         Desk.due("15 no more", d.steps(0) + " " + d.x.thread(0, 2), "1 1");
+    }
+
+    private static void locksAnywhere() {
+        for (int w = 0; w < 32; w++) {
+            if (w % 4 == 0 && w > 16) {
+                continue;
+            }
+            Desk d = new Desk("need 16; lock 0 at " + w + "; thread take 0, drop 0, take 0");
+            d.steps(0);
+            Desk.due("12 at " + w, d.x.lock(0, 0) + " " + d.x.lock(0, 1) + " " + d.x.word(w) + " " + d.x.count(6), w + " 1 1 1");
+            d.steps(0);
+            Desk.due("12 dropped at " + w, d.x.lock(0, 1) + " " + d.x.word(w) + " " + d.x.count(6), "0 0 0");
+            d.x.poke(w, 7);
+            Desk.due("15 HELD UP at " + w, d.steps(0) + " " + d.x.lock(0, 1) + " " + d.x.count(6), "0 7 1");
+        }
     }
 
     private static void takenTwice() {

@@ -19,6 +19,9 @@ public final class EdgeHandTest {
         imagesTwice();
         imageLeavesOut();
         imageOfAll();
+        imageOfAnotherGuess();
+        imageOfTheOlder();
+        threadsGoneBackFrom();
         counts();
         Desk.finish();
     }
@@ -351,6 +354,53 @@ public final class EdgeHandTest {
         Desk.due("28 TOLD 5", d.serial(), "");
         d.x.back();
         Desk.due("34 TOLD 0", d.serial(), "0");
+    }
+
+    /** Behind THE IMAGE the THREAD is in another GUESS, of which nothing may be left. */
+    private static void imageOfAnotherGuess() {
+        Desk d = new Desk("older; need 0; depth 1; thread set 4, take 0, set 5, put 1, work 2, drop 0, set 6, take 3, put 1, work 9;"
+                + "thread take 1, put 5, drop 1");
+        d.steps(0, 0, 1, 0, 0);
+        String before = Picture.of(d.x);
+        d.x.image();
+        d.steps(0, 0, 0, 0, 0, 0, 0);
+        Desk.due("another GUESS", d.x.leftOut(0, 0) + " " + d.x.sees(0, 1) + " " + d.x.thread(0, 0), "3 6 9");
+        d.x.back();
+        Desk.due("34 all is as it was", Picture.of(d.x), before);
+        d.x.poke(1, 0);
+        Desk.due("34 where it BEGAN", d.x.thread(0, 0) + " " + d.x.thread(0, 1), "1 4");
+        Desk.due("34 its first LOCK", d.x.lock(0, 2) + " " + d.x.lock(3, 2), "4 8");
+        d.x.back();
+        d.x.image();
+        d.steps(0, 0, 0);
+        d.x.back();
+        Desk.due("34 KEPT", d.steps(0, 0, 0) + " " + d.x.word(1) + " " + d.x.lock(0, 5), "0 1 1 5 1");
+    }
+
+    private static void imageOfTheOlder() {
+        Desk d = new Desk("older; need 0; thread take 0, put 1, drop 0, take 0, put 3, drop 0; thread take 1, get 3, put 1, drop 1");
+        d.steps(0, 1);
+        d.x.image();
+        d.steps(0, 0, 0);
+        Desk.due("BEGAN later now", d.x.count(4), 3);
+        d.x.back();
+        d.steps(0, 1);
+        Desk.due("34 in which TICK it BEGAN", d.steps(1) + " " + d.x.count(4), "-1 1");
+    }
+
+    private static void threadsGoneBackFrom() {
+        Desk d = new Desk("older; need 0; thread take 0, put 9, drop 0, out");
+        d.steps(0);
+        String before = Picture.of(d.x);
+        d.x.image();
+        d.tell("thread take 1, drop 1, take 2, out, put 1, drop 2; thread take 3, get 9, work 9");
+        d.steps(1, 1, 1, 1, 1, 2);
+        Desk.due("KEPT, FELL, GUESSING", d.x.count(5) + " " + d.x.fell(-1, 3) + " " + d.x.count(4), "1 1 7");
+        d.x.back();
+        Desk.due("34 nothing of them counts", Picture.of(d.x), before);
+        Desk.due("9 35 nor in what is asked of all", d.x.count(5) + " " + d.x.fell(-1, 3) + " " + d.x.lock(3, 4), "0 0 0");
+        Desk.due("15 nor do they clash", d.steps(0) + " " + d.x.poke(28, 0) + " " + d.x.count(8), "1 0 1");
+        Desk.due("16 nor have they a turn", d.x.run(100) + " " + d.x.chance(1), "2 0");
     }
 
     private static void counts() {

@@ -18,6 +18,8 @@ public final class EdgeTextTest {
         feedOrder();
         refusedFeed();
         endBounds();
+        endWithin();
+        endAtTheFull();
         emptyTexts();
         numberBounds();
         numberDigits();
@@ -137,6 +139,43 @@ public final class EdgeTextTest {
         Desk.due("3 none", d.x.end(0) + " " + Picture.tapeLength(d.x), "true 0");
         Desk.due("3 an empty text is left", d.x.machine(), 2);
         Desk.due("3 of an empty TAPE", d.x.end(0) + " " + d.x.end(1) + " " + d.x.end(-1), "true false false");
+    }
+
+    /** The bytes behind the first n must not count, though they were fed once. */
+    private static void endWithin() {
+        Object[][] all = {{"older;x", 5, RIGHT}, {"olderx", 5, RIGHT}, {"older", 4, 0}, {"need 15", 6, RIGHT}, {"need 15", 5, 5},
+            {"thread out,x", 10, RIGHT}, {"thread out,x", 11, 11}, {"thread take 12", 13, RIGHT}, {"thread", 5, 0},
+            {"lock 0 at 1", 9, 9}, {"word 1 5", 6, 6}, {"word 1 5", 7, 7}, {"older; x", 6, 6}, {"xxxx", 0, RIGHT}};
+        for (Object[] a : all) {
+            Desk d = new Desk();
+            d.feed((String) a[0]);
+            Desk.due("3", d.x.end((int) a[1]), true);
+            int got = RIGHT;
+            try {
+                d.x.machine();
+            } catch (IllegalArgumentException e) {
+                got = d.x.fault();
+            }
+            Desk.due("3 the first " + a[1] + " of " + a[0], got, a[2]);
+        }
+        Desk d = new Desk();
+        d.feed("need 15");
+        d.x.end(6);
+        d.x.machine();
+        Desk.due("3 need 1", d.x.term(4), 1);
+    }
+
+    /** Whatever ends with the 400th byte ends there. */
+    private static void endAtTheFull() {
+        Object[][] all = {{"older", RIGHT}, {"need 1", RIGHT}, {"thread out", RIGHT}, {"thread take 1", RIGHT}, {"lock 1 at 1", RIGHT},
+            {"olde", 396}, {"need", 400}, {"older;", 400}, {"thread", 400}, {"thread out,", 400}, {"thread ou", 398},
+            {"lock 1 a", 399}, {"need 1 1", 399}, {"word 1 12345", 395}, {";", 399}};
+        for (Object[] a : all) {
+            String text = (String) a[0];
+            Desk.due("4 400 bytes, at their end " + text, told(" ".repeat(400 - text.length()) + text), a[1]);
+        }
+        Desk.due("5 one word of 400", told("x".repeat(400)), 0);
+        Desk.due("5 one number of 395", told("need " + "1".repeat(395)), 5);
     }
 
     private static void emptyTexts() {
