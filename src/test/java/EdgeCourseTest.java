@@ -40,6 +40,7 @@ public final class EdgeCourseTest {
         turns();
         turnsLeft();
         logFills();
+        logRowByRow();
         logRows();
         Desk.finish();
     }
@@ -623,6 +624,23 @@ public final class EdgeCourseTest {
         Desk.due("30 the oldest went", d.row(59).equals(oldest) + " " + d.row(60), "false -1 -1 -1 -1");
         for (int ago : new int[] {-1, 60, 61, Integer.MIN_VALUE, Integer.MAX_VALUE}) {
             Desk.due("30 log(" + ago + ")", d.row(ago), "-1 -1 -1 -1");
+        }
+    }
+
+    private static void logRowByRow() {
+        String outs = "thread out" + ",out".repeat(23);
+        Desk d = new Desk(outs, outs, outs);
+        stepsOf(d, 0, 24);
+        stepsOf(d, 1, 24);
+        Desk.due("30 24 OUTPUTS and DONE, twice", d.x.count(8), 50);
+        for (int rows = 51; rows <= 63; rows++) {
+            d.steps(2);
+            int kept = Math.min(rows, 60);
+            // Two rows of DONE stand ahead, and TICKS go from 0 on: the 51st row is of TICK 48.
+            Desk.due("30 rows", d.x.count(8), kept);
+            Desk.due("30 the latest", d.row(0), (rows - 3) + " 2 5 0");
+            Desk.due("30 the oldest", d.row(kept - 1), (rows - kept) + " 0 5 0");
+            Desk.due("30 none beyond", d.row(kept), "-1 -1 -1 -1");
         }
     }
 
